@@ -1,0 +1,27 @@
+/** Counts answers that are not as due; a test's main ends with ends(). */
+final class Due {
+    private static int asked = 0;
+    private static int wrong = 0;
+
+    private Due() {
+    }
+
+    static void is(String what, long got, long want) {
+        asked++;
+        if (got != want) {
+            wrong++;
+            System.out.println(what + " answered " + got + ", due is " + want);
+        }
+    }
+
+    static void is(String what, boolean got, boolean want) {
+        is(what, got ? 1 : 0, want ? 1 : 0);
+    }
+
+    static void ends(String test) {
+        System.out.println(test + ": " + asked + " answers, " + wrong + " not as due");
+        if (wrong != 0 || asked == 0) {
+            System.exit(1);
+        }
+    }
+}
