@@ -1019,6 +1019,8 @@ public final class PieceStore {
                 gone = gone * 31 % 1009;
             }
             ends.clear();
+            int least = rules.number(LEAST);
+            int most = rules.number(MOST);
             int sum = 0;
             int length = 0;
             for (int i = 0; i < file.size(); i++) {
@@ -1026,8 +1028,8 @@ public final class PieceStore {
                 int left = i >= window ? file.at(i - window) : 0;
                 sum = Math.floorMod(31 * sum + octet - gone * left, 1009);
                 length++;
-                boolean ended = length >= rules.number(MOST) || i == file.size() - 1;
-                if (ended || length >= rules.number(LEAST) && rules.isBorder(day, sum, length, octet)) {
+                boolean ended = length >= most || i == file.size() - 1;
+                if (ended || length >= least && rules.isBorder(day, sum, length, octet)) {
                     ends.add(i + 1);
                     length = 0;
                 }
@@ -1661,7 +1663,8 @@ public final class PieceStore {
         private int pieceHad(Vault vault, int form, int first) {
             for (int i = 0; i < champions.size(); i++) {
                 int segment = champions.at(i);
-                int end = segment + 1 < vault.segmentFirst.size() ? vault.segmentFirst.at(segment + 1) : first;
+                // The segment that is being saved stands behind every champion already.
+                int end = vault.segmentFirst.at(segment + 1);
                 int had = pieceAmong(vault, form, vault.segmentFirst.at(segment), end);
                 if (had != NONE) {
                     return had;
@@ -1812,8 +1815,13 @@ public final class PieceStore {
 
         int telling(int left) {
             int best = 0;
+            int fewest = worstBy(0, left);
             for (int k = 1; k < TOLD_PIECES; k++) {
-                best = worstBy(k, left) < worstBy(best, left) ? k : best;
+                int worst = worstBy(k, left);
+                if (worst < fewest) {
+                    best = k;
+                    fewest = worst;
+                }
             }
             return best;
         }

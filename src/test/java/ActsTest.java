@@ -9,6 +9,7 @@ public final class ActsTest {
         chances();
         chanceWithoutBoxes();
         drawing();
+        drawingTheEdge();
         cleaning();
         cleaningInOrder();
         cleaningRefused();
@@ -16,6 +17,7 @@ public final class ActsTest {
         smashing();
         undoing();
         undoingSaves();
+        storingAgain();
         undoingTwenty();
         undoingIsNoMeeting();
         seeding();
@@ -142,6 +144,17 @@ public final class ActsTest {
         t.x.seed(0);
         t.x.chance(1);
         Due.is("from 0", t.x.has(11), 12345);
+    }
+
+    /** A draw below rot breaks a box, a draw of rot itself does not. */
+    private static void drawingTheEdge() {
+        int number = (int) (next(99) / 64 % 100);
+        for (int rot = number; rot <= number + 1; rot++) {
+            Tried t = Tried.with("box 60;rot " + rot + ";" + POINTS);
+            t.save("a.");
+            t.x.seed(99);
+            Due.is("rot " + rot, t.x.chance(1), rot - number);
+        }
     }
 
     private static void cleaning() {
@@ -312,6 +325,59 @@ public final class ActsTest {
         t.save("a.b.");
         Due.is("as new", t.x.kept(0, 2), 2);
         Due.is("bytes of it", t.x.octet(0, 2), 'b');
+        t.save("c.");
+        t.x.forget(0);
+        t.x.days(2);
+        t.save("d.");
+        Due.is("the number is another's", t.x.octet(0, 0), 'd');
+        t.x.undo();
+        t.x.undo();
+        t.x.undo();
+        Due.is("its own again", t.x.octet(0, 0), 'a');
+        Due.is("on its day", t.x.backup(0, 0), 0);
+    }
+
+    /** Nothing of the store ahead is left: not its tests, numbers, pieces, index, nor what undoing would need. */
+    private static void storingAgain() {
+        Tried t = Tried.with("box 200;segs 1;champs 4;window 1;keep 1;rot 100;desk 6;clean all;" + POINTS);
+        t.save("a.b.c.d.e.f.g.h.");
+        t.save("h.g.f.e.");
+        t.x.spoil(0, 0);
+        t.x.smash(0);
+        t.meet(0, 2);
+        t.store("box 70;least 1;segs 2;champs 1;border byte=46;hook all;");
+        t.save("a.b.");
+        Due.is("written anew", t.x.has(2), 2);
+        Due.is("hooks anew", t.x.has(6), 2);
+        Due.is("whole", t.x.why(0, 0), -1);
+        Due.is("no rot", t.x.odds(0), 100);
+        Due.is("no keep", t.x.expires(0), -1);
+        Due.is("no test of clean", t.x.box(0, 5), 0);
+        Due.is("nothing met", t.x.windows(0), 131070);
+        t.save("b.c.");
+        t.save("c.a.");
+        t.x.undo();
+        t.x.undo();
+        t.x.undo();
+        Due.is("no hooks", t.x.has(6), 0);
+        t.save("h.e.");
+        Due.is("two are written", t.x.kept(0, 2), 2);
+        t.store("box 70;");
+        Due.is("without a border", t.cuts("a.b.c.", PieceStore.NONE), Tried.with("box 80;").cuts("a.b.c.", PieceStore.NONE));
+        t.save("a.b.c.");
+        Tried other = Tried.with("box 70;");
+        other.save("a.b.c.");
+        Due.is("without a hook", t.x.has(6), other.x.has(6));
+        t.store("box 70;" + POINTS);
+        t.save("a.");
+        t.save("a.");
+        t.store("box 70;least 1;border byte=46;hook day=1;");
+        t.save("x.");
+        t.save("y.");
+        t.x.undo();
+        t.x.days(1);
+        t.save("y.");
+        Due.is("undoing knows this store's index alone", t.x.has(6), 1);
     }
 
     private static void undoingTwenty() {

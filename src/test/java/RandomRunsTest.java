@@ -92,7 +92,7 @@ public final class RandomRunsTest {
     }
 
     private void act() {
-        int n = below(100);
+        int n = run % 7 == 3 && below(12) == 0 ? 98 : below(100);
         if (n < 45) {
             tape(file());
             call(below(12) == 0 ? "cuts" : "save", below(12) == 0 ? new int[] {below(12) - 1} : new int[] {below(6) - 1});
@@ -119,7 +119,7 @@ public final class RandomRunsTest {
             meet();
         } else if (n < 98) {
             call(below(2) == 0 ? "days" : "chance", 40);
-        } else if (n < 99 && below(3) == 0) {
+        } else if (n < 99 && below(run % 7 == 3 ? 1 : 3) == 0) {
             newStore();
         } else {
             noise(4);
@@ -228,6 +228,9 @@ public final class RandomRunsTest {
 
     private String storeText() {
         StringBuilder s = new StringBuilder();
+        if (run % 7 == 3 && below(2) == 0) {
+            return "box 99;least 1;segs " + (1 + below(3)) + ";" + (below(2) == 0 ? "hook all;" : "");
+        }
         s.append("box ").append(60 + below(141)).append(';');
         String[] names = {"window", "least", "normal", "most", "segs", "champs", "desk", "keep", "rot"};
         int[][] bounds = {{1, 16}, {1, 30}, {1, 60}, {30, 60}, {1, 8}, {0, 4}, {1, 6}, {0, 99}, {0, 100}};

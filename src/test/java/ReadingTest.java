@@ -162,7 +162,8 @@ public final class ReadingTest {
         Due.is("no day more", t.x.days(1), -1);
         Due.is("nor by the seed", t.x.chance(1), -1);
         t.x.undo();
-        Due.is("odds again", t.x.odds(PieceStore.NONE), 100);
+        t.x.days(19);
+        Due.is("odds on day 998", t.x.odds(PieceStore.NONE), 100);
     }
 
     private static void expiring() {

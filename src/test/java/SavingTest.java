@@ -230,10 +230,19 @@ public final class SavingTest {
         t.x.days(1);
         t.save("a.b.");
         Due.is("on day 1 both", t.x.has(6), 2);
+        t = Tried.with("box 100;hook day=1;");
+        t.save("abcabc");
+        t.x.days(1);
+        Due.is("none on day 0 without a border", t.x.has(6), 0);
+        t.save("abcabc");
+        Due.is("some on day 1", t.x.has(6) > 0, true);
+        t = Tried.with("box 100;segs 4;champs 1;least 1;border byte=46;hook print%7=" + print("b.") % 7 + " and print/7=" + print("b.") / 7 + ";");
+        t.save("a.b.c.");
+        Due.is("by print", t.x.has(6), 1);
         t = Tried.with("box 100;segs 4;least 1;border byte=46;");
-        t.save("a.b.c.d.e.f.");
+        t.save("a.b.c.d.e.f.gg.");
         int even = 0;
-        for (String p : new String[] {"a.", "b.", "c.", "d.", "e.", "f."}) {
+        for (String p : new String[] {"a.", "b.", "c.", "d.", "e.", "f.", "gg."}) {
             even += print(p) % 2 == 0 ? 1 : 0;
         }
         Due.is("without a test: even prints", t.x.has(6), even);
@@ -305,6 +314,9 @@ public final class SavingTest {
         t.save("a.b.c.d.e.");
         t.save("e.a.");
         Due.is("segs without is 4: a. and e. of two", t.x.kept(1, 2), 0);
+        t = Tried.with("box 200;least 1;border byte=46;hook all;champs 0;");
+        t.save("a.b.c.d.a.d.d.d.d.");
+        Due.is("segs without is 4: a. and d. twice and d. a third time", t.x.has(2), 7);
         t = Tried.with("box 200;least 1;border byte=46;hook all;segs 8;");
         t.save("a.");
         t.save("b.");
@@ -391,8 +403,28 @@ public final class SavingTest {
         Due.is("the test holds all the same", t.x.box(0, 5), 1);
         Due.is("what 6", t.x.box(0, 6), -1);
         Due.is("what -1", t.x.box(0, -1), -1);
-        Due.is("box 1", t.x.box(1, 0), -1);
-        Due.is("box -1", t.x.box(-1, 0), -1);
+        for (int what = 0; what < 6; what++) {
+            Due.is("box 1, " + what, t.x.box(1, what), -1);
+            Due.is("box -1, " + what, t.x.box(-1, what), -1);
+            Due.is("the most int, " + what, t.x.box(Integer.MAX_VALUE, what), -1);
+        }
+        t.x.days(2);
+        t.save("d".repeat(24) + "." + "e".repeat(24) + "." + "f".repeat(24) + ".");
+        t.x.days(1);
+        Due.is("pieces of the second box", t.x.box(1, 1), 1);
+        Due.is("its days", t.x.box(1, 3), 1);
+        t = Tried.with("box 60;keep 1;clean live=0;" + POINTS);
+        t.save("a.");
+        Due.is("live now, though not tomorrow", t.x.box(0, 2), 1);
+        Due.is("nor is it to be cleaned now", t.x.box(0, 5), 0);
+        t.x.later(1, 1);
+        Due.is("whatever was asked ahead", t.x.box(0, 2), 1);
+        Due.is("so it is refused", t.x.clean(), -1);
+        t = Tried.with("box 60;clean age=1;least 1;most 60;border byte=46;");
+        t.x.days(1);
+        t.save("a.");
+        t.x.days(1);
+        Due.is("age is not the day", t.x.box(0, 5), 1);
         t = Tried.with("box 60;champs 1;" + POINTS);
         t.save("aa.");
         t.save("bb.");
