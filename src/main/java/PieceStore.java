@@ -43,6 +43,7 @@ public final class PieceStore {
         "box   windowleast normalmost  segs  champsdesk  keep  rot   borderhook  clean day   sum   lengthbyte  print place live  dead  age   min   max   if    not   all   and   or    ";
     private static final int WORD_LETTERS = 6;
     private static final int WORD_COUNT = 29;
+    private static final int NUMBER_DIGITS = 4;
     private static final int BOX = 0;
     private static final int WINDOW = 1;
     private static final int LEAST = 2;
@@ -767,7 +768,17 @@ public final class PieceStore {
             return octet >= '0' && octet <= '9';
         }
 
+        /** Nothing behind a broken token is ever asked for. */
+        private int breakOff(Row text, int place, int start) {
+            addToken(TOKEN_BROKEN, place, start);
+            return text.size();
+        }
+
+        // A missing blank is looked for ahead of the length: its fault comes first along the text.
         private int splitWord(Row text, int start) {
+            if (isDigit(text.at(start - 1))) {
+                return breakOff(text, start, start);
+            }
             int at = start;
             int packed = 0;
             while (at < text.size() && at - start < WORD_LETTERS && isLetter(text.at(at))) {
@@ -775,33 +786,26 @@ public final class PieceStore {
                 at++;
             }
             if (isLetter(text.at(at))) {
-                addToken(TOKEN_BROKEN, at, start);
-                return text.size();
+                return breakOff(text, at, start);
             }
-            if (isDigit(text.at(start - 1))) {
-                addToken(TOKEN_BROKEN, start, start);
-            } else {
-                addToken(TOKEN_WORD, words.indexOf(packed), start);
-            }
+            addToken(TOKEN_WORD, words.indexOf(packed), start);
             return at;
         }
 
         private int splitNumber(Row text, int start) {
+            if (isLetter(text.at(start - 1))) {
+                return breakOff(text, start, start);
+            }
             int at = start;
             int value = 0;
-            while (at < text.size() && at - start < 4 && isDigit(text.at(at))) {
+            while (at < text.size() && at - start < NUMBER_DIGITS && isDigit(text.at(at))) {
                 value = value * 10 + text.at(at) - '0';
                 at++;
             }
             if (isDigit(text.at(at))) {
-                addToken(TOKEN_BROKEN, at, start);
-                return text.size();
+                return breakOff(text, at, start);
             }
-            if (isLetter(text.at(start - 1))) {
-                addToken(TOKEN_BROKEN, start, start);
-            } else {
-                addToken(TOKEN_NUMBER, value, start);
-            }
+            addToken(TOKEN_NUMBER, value, start);
             return at;
         }
 

@@ -73,6 +73,9 @@ final class Model {
             if (!letter(c) && !digit(c)) {
                 return text.substring(at, at + 1);
             }
+            if (at > 0 && (letter(text.charAt(at - 1)) || digit(text.charAt(at - 1)))) {
+                throw new Fault(1, at);
+            }
             int to = at;
             int most = letter(c) ? 6 : 4;
             while (to < text.length() && (letter(c) ? letter(text.charAt(to)) : digit(text.charAt(to)))) {
@@ -80,9 +83,6 @@ final class Model {
                     throw new Fault(1, to);
                 }
                 to++;
-            }
-            if (at > 0 && (letter(text.charAt(at - 1)) || digit(text.charAt(at - 1)))) {
-                throw new Fault(1, at);
             }
             return text.substring(at, to);
         }

@@ -8,6 +8,7 @@ public final class TextTest {
         ending();
         storing();
         faultsOfText();
+        faultsOfMissingBlanks();
         faultsOfNumbers();
         faultsOfDepth();
         faultsOfKinds();
@@ -172,6 +173,33 @@ public final class TextTest {
         fault("box 60;clean byte=1;", 1, 13);
         fault("box 60;clean dead=" + (char) 233, 1, 18);
         fault("box 60;clean foo=1;", 1, 13);
+    }
+
+    /** Words and numbers side by side: the place of the missing blank is ahead of a 7th letter or a 5th digit. */
+    private static void faultsOfMissingBlanks() {
+        fault("box 60aaaaaaaa", 1, 6);
+        fault("box 60aaaaaaaa" + "\u0000".repeat(12), 1, 6);
+        fault("box 60aaaaaa", 1, 6);
+        fault("box 60windowx 3;", 1, 6);
+        fault("box6000;", 1, 3);
+        fault("box60000;", 1, 3);
+        fault("box 60;window12345;", 1, 13);
+        fault("box 60;hook all12345;", 1, 15);
+        fault("box 60;hook 1<2lengthy=1;", 1, 15);
+        fault("box 60;hook 1lengthy=1;", 1, 13);
+        fault("box 60;hook min12345", 1, 15);
+        fault("box 60;hook not12345<1;", 1, 15);
+        fault("box 60 aaaaaaaa", 1, 13);
+        fault("box 60\naaaaaaaa", 1, 13);
+        fault("box 60;hook all 12345;", 1, 20);
+        fault("box 60;windowx12345;", 1, 13);
+        fault("box 12345aaaaaaaa;", 1, 8);
+        fault("bo60000;", 1, 0);
+        fault("box 59aaaaaaaa", 4, 4);
+        fault("box 60;hook all;hook12345", 6, 16);
+        String forty = "box 60;" + "rot 5;".repeat(39);
+        fault(forty + "aaaaaaaa", 6, forty.length());
+        fault(forty + "rot12345", 6, forty.length());
     }
 
     private static void faultsOfNumbers() {
