@@ -526,12 +526,58 @@ final class EdgesOfActs {
             t.x.undo();
             Due.is("the forgotten one is there", t.x.octet(0, 2), 'b');
         });
+        Edge.of(30, "all is as it was ahead of it", () -> {
+            String store = "box 60;segs 2;champs 2;keep 9;" + POINTS;
+            for (int series = 0; series < 6; series++) {
+                for (int undone = 0; undone < 8; undone++) {
+                    Tried t = Tried.with(store);
+                    Tried twin = Tried.with(store);
+                    for (int i = 0; i <= series; i++) {
+                        step(t, i);
+                        step(twin, i);
+                    }
+                    for (int i = 0; i < 3; i++) {
+                        step(t, undone + i);
+                    }
+                    for (int i = 0; i < 3; i++) {
+                        Due.is("undo", t.x.undo(), true);
+                    }
+                    Twins.liveAlike("acts " + undone + " and so on undone behind act " + series, t, twin);
+                }
+            }
+            Tried t = Tried.with(store);
+            t.save("a.");
+            t.x.forget(0);
+            t.x.days(3);
+            t.save("b.");
+            t.x.undo();
+            t.x.undo();
+            t.x.undo();
+            Due.is("the day of a backup whose number another one had", t.x.backup(0, 0), 0);
+            Due.is("and when it expires", t.x.expires(0), 9);
+        });
         Edge.of(30, "false, refused (4), when none can be.", () -> {
             Twins.refused("without a store", 4, Twins::bare, t -> t.x.undo() ? 1 : 0, 0);
             Twins.refused("without an act", 4, Twins::quiet, t -> t.x.undo() ? 1 : 0, 0);
             Twins.refused("all undone", 4, EdgesOfActs::allUndone, t -> t.x.undo() ? 1 : 0, 0);
             Twins.refused("of the store ahead", 4, EdgesOfActs::storedAgain, t -> t.x.undo() ? 1 : 0, 0);
         });
+    }
+
+    /** An act that can be, whatever was ahead of it. */
+    private static void step(Tried t, int act) {
+        switch (act) {
+            case 0: t.save("a.b.c."); break;
+            case 1: t.save("b.d.a."); break;
+            case 2: t.x.days(1); break;
+            case 3: t.save("z".repeat(57) + ".c.d."); break;
+            case 4: t.save("e.e.z.d."); break;
+            case 5: t.save("c.a.b."); break;
+            case 6: t.x.days(2); break;
+            case 7: t.save("x.b."); break;
+            case 8: t.x.days(3); break;
+            default: t.save("b.x.e.a."); break;
+        }
     }
 
     private static Tried allUndone() {

@@ -169,6 +169,16 @@ final class EdgesOfCutting {
             t = Tried.with("box 60;segs 8;" + POINTS);
             t.save(".a..b.aa.a.");
             Due.is("bytes behind one another, length and all", t.x.has(2), 4);
+            StringBuilder every = new StringBuilder();
+            for (int b = 0; b < 256; b++) {
+                every.append((char) b);
+            }
+            t = Tried.with("box 60;least 1;border all;");
+            t.save(every.toString());
+            Due.is("256 unlike ones", t.x.has(2), 256);
+            for (int b = 0; b < 256; b++) {
+                Due.is("byte " + b + " as a piece is equal to the next", t.x.edit(0, b, b < 255 ? b + 1 : 0), 0);
+            }
         });
     }
 
@@ -273,6 +283,14 @@ final class EdgesOfCutting {
             Due.is("equal to one of another backup alone", t.x.edit(0, 0, 'x'), 1);
             t.save("abxab.");
             Due.is("like ones count each", t.x.edit(2, 2, '.'), 2);
+            t = Tried.with("box 60;segs 8;" + POINTS);
+            t.save("a.b.c.");
+            t.save("d.e.f.");
+            for (int k = 0; k < 3; k++) {
+                Due.is("those of the backup that was asked for ahead do not count, " + k, t.x.edit(0, 0, 'a'), 0);
+                Due.is("nor do they there, " + k, t.x.edit(1, 2 * k, 'a' + k), 1);
+                Due.is("nor its own the other way, " + k, t.x.edit(0, 2 * k, 'd' + k), 1);
+            }
         });
         Edge.of(13, "NONE when there are none such.", () -> {
             for (int k : new int[] {9, 10, 400, -1, MOST_INT, LEAST_INT}) {

@@ -576,6 +576,17 @@ final class EdgesOfReading {
             t.save("yz" + "a".repeat(20));
             t.meet(0, 17);
             Due.is("the window of 16 alone", t.x.windows(0), 65536);
+            t = Tried.with(FIVES);
+            t.save(file(1, 60));
+            t.save(file(2, 60));
+            int one = lengths(file(1, 60), 1).get(0);
+            t.meet(0, one);
+            for (int i = 0; i < 2; i++) {
+                Due.is("of the first backup", t.x.windows(0), left(file(1, 60), 0, one));
+                Due.is("of the second backup", t.x.windows(1), left(file(2, 60), 0, one));
+                t.cuts(file(3, 60), 0);
+            }
+            Due.is("they are not the same", t.x.windows(0) != t.x.windows(1), true);
             for (int b : NO_BACKUPS) {
                 Twins.unanswered("windows(" + b + ")", Twins::rich, y -> y.x.windows(b));
             }
@@ -614,6 +625,16 @@ final class EdgesOfReading {
                 t.save(".".repeat(points) + "abcc");
                 Due.is("by piece " + points + " a window of 1 is told: number", t.x.tells(0, 0), points < 40 ? points : 0);
                 Due.is("by piece " + points + " a window of 1 is told: left", t.x.tells(0, 1), points < 40 ? 15 : 16);
+            }
+            for (int most : new int[] {30, 59, 60}) {
+                Tried t = Tried.with("box 60;least 1;most " + most + ";border byte=98 and sum=98;");
+                t.save("a".repeat(most - 2) + "baaaa");
+                Due.is("a piece of " + most + ", by one window less: number", t.x.tells(0, 0), 0);
+                Due.is("a piece of " + most + ", by one window less: left", t.x.tells(0, 1), 15);
+                t = Tried.with("box 60;most " + most + ";border not all;");
+                t.save("a".repeat(61));
+                Due.is("all of " + most + ": number", t.x.tells(0, 0), 0);
+                Due.is("all of " + most + ": left", t.x.tells(0, 1), 16);
             }
             boolean notTheFirst = false;
             for (int i = 0; i < 60; i++) {

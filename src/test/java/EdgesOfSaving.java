@@ -218,6 +218,13 @@ final class EdgesOfSaving {
             t.save("a.b.");
             Due.is("saved again they live again", t.x.has(3), 2);
             Due.is("and are those", t.x.has(2), 3);
+            t = Tried.with("box 60;keep 1;clean dead>0;" + POINTS);
+            t.save("a.");
+            Due.is("live now, though it expires with the next day", t.x.has(3), 1);
+            Due.is("in its box, too", t.x.box(0, 2), 1);
+            Due.is("by the test of clean, too", t.x.box(0, 5), 0);
+            Due.is("for what cleaning frees, too", t.x.gain(0), 0);
+            Due.is("for cleaning, too", t.x.clean(), PieceStore.NONE);
         });
         Edge.of(23, "One that is no more is of no SEGMENT.", () -> {
             Tried t = saved("segs 3;champs 1;hook all;clean all;", "b.", "a.b.c.");
@@ -474,6 +481,7 @@ final class EdgesOfSaving {
                 Due.is("told behind save " + n, t.x.has(8), Math.min(n, 40));
                 Due.is("the last one", t.x.kept(Math.min(n, 40) - 1, 1), n % 5 + 1);
                 Due.is("none behind it", t.x.kept(Math.min(n, 40), 1), PieceStore.NONE);
+                Due.is("none ahead of the oldest", t.x.kept(-1, 1), PieceStore.NONE);
                 int oldest = n <= 40 ? 1 : n - 39;
                 Due.is("the oldest one", t.x.kept(0, 1), oldest % 5 + 1);
                 Due.is("written by the oldest one", t.x.kept(0, 2), oldest == 1 ? 1 : 0);

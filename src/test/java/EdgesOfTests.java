@@ -138,6 +138,21 @@ final class EdgesOfTests {
             holds("not all or not all or all");
             fails("not all or not all or not all");
             holds("all and not 1=2");
+            for (String sign : new String[] {"<", ">", "="}) {
+                String holding = sign.equals("<") ? "1<2" : sign.equals(">") ? "2>1" : "2=2";
+                String failing = sign.equals("<") ? "2<1" : sign.equals(">") ? "1>2" : "1=2";
+                holds("not " + failing);
+                fails("not " + holding);
+                fails("all and " + failing);
+                fails(failing + " and all");
+                holds("all and " + holding);
+                holds("not all or " + holding);
+                fails("not all or " + failing);
+                fails(failing + " or " + failing);
+                holds("not [" + failing + " or " + failing + "]");
+                holds("if(" + failing + ",1,2)=2");
+                holds("if(" + holding + ",1,2)=1");
+            }
         });
     }
 
@@ -198,6 +213,12 @@ final class EdgesOfTests {
             Due.is("none is number 4", hooks("place=4"), 0);
             Due.is("the number goes on over segments", hooks("place>1"), 2);
             Due.is("the day", hooks("day=0"), 3);
+            Tried t = Tried.with("box 60;hook day=3;");
+            t.save("abc");
+            Due.is("on day 0, without a test of border", t.x.has(6), 0);
+            t.x.days(3);
+            t.save("abc");
+            Due.is("on day 3", t.x.has(6), 1);
         });
         Edge.of(4, "of a BOX how many bytes of LIVE PIECES, of others are in it, for how many DAYS it has been there.", () -> {
             for (int live = 4; live <= 6; live++) {
@@ -211,6 +232,11 @@ final class EdgesOfTests {
             }
             Due.is("day=6", boxOfFiveAndThree("day=6"), 1);
             Due.is("all", boxOfFiveAndThree("live=5 and dead=3 and age=2"), 1);
+            Tried t = Tried.with("box 60;clean day=3;");
+            t.save("abc");
+            Due.is("on day 0, without other tests", t.x.box(0, 5), 0);
+            t.x.days(3);
+            Due.is("on day 3", t.x.box(0, 5), 1);
         });
     }
 

@@ -205,12 +205,30 @@ final class EdgesOfText {
             Due.is("one act", t.x.has(10), 1);
             Due.is("the first save that is kept", t.x.kept(0, 0), 0);
             Due.is("and none behind it", t.x.kept(1, 0), PieceStore.NONE);
-            Tried two = Tried.with("box 60;least 1;border byte=46;hook all;");
-            two.save("a.b.");
-            two.store("box 60;least 1;border byte=46;hook all;");
-            two.save("a.b.");
-            Due.is("no piece of the store ahead", two.x.kept(0, 2), 2);
-            Due.is("no hook of it", two.x.has(6), 2);
+            String all = "box 200;window 9;least 7;normal 20;most 60;segs 1;champs 0;desk 6;keep 3;rot 9;border all;hook all;clean all;";
+            String points = "box 60;least 1;segs 2;champs 1;border byte=46;hook all;clean dead>0;";
+            for (String text : new String[] {"box 60;", points}) {
+                Tried two = Tried.with(all);
+                two.store(all + "!");
+                two.store(text);
+                Twins.liveAlike("numbers and tests of others are gone, " + text, two, Tried.with(text));
+                Tried three = Tried.with(points);
+                three.save("zz." + "z".repeat(29) + "." + "z".repeat(28) + ".");
+                three.save("a.b.c.d.a.b.c.d.");
+                three.x.smash(0);
+                three.x.spoil(1, 0);
+                three.x.forget(0);
+                three.x.gain(0);
+                three.x.clean();
+                three.store(text);
+                Twins.liveAlike("pieces, boxes, hooks of the store ahead are gone, " + text, three, Tried.with(text));
+                Tried four = Tried.with(points);
+                four.save("a.b.c.");
+                four.store(points);
+                four.save("c.b.");
+                four.x.undo();
+                Twins.liveAlike("so they are behind undo()", four, Tried.with(points));
+            }
         });
     }
 
@@ -497,6 +515,9 @@ final class EdgesOfText {
             fault("b", 1, 0);
             fault("bo", 1, 0);
             fault("boxx", 1, 0);
+            fault("boxa 60;", 1, 0);
+            fault("boxz 60;", 1, 0);
+            fault("zzzzzz", 1, 0);
             fault("box 60;windo", 1, 7);
             fault("box 60;windov 3;", 1, 7);
             fault("box 60;hook al;", 1, 12);
@@ -538,6 +559,10 @@ final class EdgesOfText {
             fault("windows", 1, 6);
             fault("normal", 1, 0);
             fault("abcdefghijklmnop", 1, 6);
+            fault("azazaza", 1, 6);
+            fault("zazazaz", 1, 6);
+            fault("box 09090;", 1, 8);
+            fault("box 90909;", 1, 8);
             fault("12345", 1, 4);
             fault("1234", 1, 0);
             fault("box 60;normals 3;", 1, 13);
@@ -599,6 +624,10 @@ final class EdgesOfText {
             taken("box 60;hook [[[[[[1=min(1,2)]]]]]];", 2);
             taken("box 60;hook if(if(if(if(if(if(if(all,1,2)=1,1,2)=1,1,2)=1,1,2)=1,1,2)=1,1,2)=1,1,2)=1;", 2);
             fault("box 60;hook (((((((1(", 1, 20);
+            fault("box 60;hook if((((((((1))))))))<2,1,2)=1;", 5, 21);
+            fault("box 60;hook if(not not not not not not not all,1,2)=1;", 5, 39);
+            fault("box 60;hook min(min(((((((1,2),2)=1;", 5, 25);
+            fault("box 60;hook if(all,1,if(all,2,((((((3", 5, 35);
         });
         Edge.of(5, "at once (not until its FACT ends), at it", () -> {
             taken("box 60;hook not not not not not not not all and not not not not not not not all or not (1)=1;", 2);

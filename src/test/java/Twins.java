@@ -45,6 +45,27 @@ final class Twins {
         Due.is(what + ": all is as it was (" + shown + " for " + due + ")", shown.equals(due), true);
     }
 
+    /** Both tell the same now, and answer the same in all that is done with them from now on. */
+    static void liveAlike(String what, Tried one, Tried other) {
+        String lived = life(one);
+        String due = life(other);
+        Due.is(what + ": the same answers (" + lived + " for " + due + ")", lived.equals(due), true);
+    }
+
+    private static String life(Tried t) {
+        StringBuilder s = new StringBuilder(shown(t.x));
+        for (String file : new String[] {"a.b.c.a.", "c.x." + "y".repeat(28) + ".", "b.c.a.d.d.", "the ice of the lake.", "a.x."}) {
+            s.append(t.save(file)).append(' ').append(t.x.has(2)).append(' ').append(t.x.has(4)).append(' ').append(t.x.has(6)).append(' ');
+        }
+        s.append(t.x.spoil(0, 1)).append(t.x.forget(1)).append(t.x.days(2)).append(t.x.gain(0)).append(t.x.gain(1));
+        s.append(t.x.clean()).append('|').append(t.x.undo()).append(t.x.smash(0)).append(t.x.forget(0)).append(t.x.clean());
+        s.append(t.save("d.c.b.a.")).append('|').append(shown(t.x));
+        for (int i = 0; i < 6; i++) {
+            s.append(t.x.undo()).append(t.x.has(2)).append(' ').append(t.x.has(6)).append(' ').append(t.x.piece(0, 1, 2)).append(' ');
+        }
+        return s.append(t.cuts("a.b.c.", 0)).append(t.save("c.b.a.")).append(' ').append(t.x.has(2)).append(shown(t.x)).toString();
+    }
+
     /** What an object tells by its questions, but for the counts of what was refused. */
     static String shown(PieceStore x) {
         StringBuilder s = new StringBuilder();
