@@ -418,22 +418,18 @@ final class EdgesOfActs {
 
     private static void acts() {
         Edge.of(30, "ACTS: SAVES; a BACKUP is forgotten; DAYS, by the seed; CLEANING; a PIECE of a BACKUP is SPOILED; a BOX is BROKEN.", () -> {
-            Tried t = Tried.with("box 60;champs 0;rot 100;" + POINTS);
-            String start = Twins.shown(t.x);
-            String[] shown = new String[9];
-            int acts = 0;
             for (int act = 0; act < 8; act++) {
-                shown[act] = shownWithoutSeed(t.x);
+                Tried t = behind(act);
+                Tried twin = behind(act);
+                Due.is("acts ahead of act " + act, t.x.has(10), act);
                 act(t, act);
-                acts++;
-                Due.is("acts behind act " + act, t.x.has(10), acts);
-            }
-            for (int act = 7; act >= 0; act--) {
+                Due.is("acts behind act " + act, t.x.has(10), act + 1);
                 Due.is("undo of act " + act, t.x.undo(), true);
-                Due.is("all is as it was ahead of act " + act, shownWithoutSeed(t.x).equals(shown[act]), true);
+                t.x.seed(1);
+                twin.x.seed(1);
+                Twins.showsSame("undo of act " + act, t, twin);
             }
-            t.x.seed(1);
-            Due.is("all is as at the beginning", Twins.shown(t.x).equals(start), true);
+            Tried t = behind(0);
             t.cuts("a.b.", 0);
             t.meet(0, 1);
             t.x.seed(9);
@@ -479,12 +475,13 @@ final class EdgesOfActs {
         Due.is("act " + act, done, true);
     }
 
-    private static String shownWithoutSeed(PieceStore x) {
-        int seed = x.has(11);
-        x.seed(0);
-        String shown = Twins.shown(x);
-        x.seed(seed);
-        return shown;
+    /** A store on which the acts ahead of that one were done. */
+    private static Tried behind(int act) {
+        Tried t = Tried.with("box 60;champs 0;rot 100;" + POINTS);
+        for (int i = 0; i < act; i++) {
+            act(t, i);
+        }
+        return t;
     }
 
     private static void undoing() {
@@ -530,19 +527,8 @@ final class EdgesOfActs {
             String store = "box 60;segs 2;champs 2;keep 9;" + POINTS;
             for (int series = 0; series < 6; series++) {
                 for (int undone = 0; undone < 8; undone++) {
-                    Tried t = Tried.with(store);
-                    Tried twin = Tried.with(store);
-                    for (int i = 0; i <= series; i++) {
-                        step(t, i);
-                        step(twin, i);
-                    }
-                    for (int i = 0; i < 3; i++) {
-                        step(t, undone + i);
-                    }
-                    for (int i = 0; i < 3; i++) {
-                        Due.is("undo", t.x.undo(), true);
-                    }
-                    Twins.liveAlike("acts " + undone + " and so on undone behind act " + series, t, twin);
+                    undone(store, series, undone);
+                    undone("box 60;segs 4;champs 2;least 1;border byte=46;hook place%2=1;", series, undone);
                 }
             }
             Tried t = Tried.with(store);
@@ -555,6 +541,16 @@ final class EdgesOfActs {
             t.x.undo();
             Due.is("the day of a backup whose number another one had", t.x.backup(0, 0), 0);
             Due.is("and when it expires", t.x.expires(0), 9);
+            t = Tried.with("box 60;least 1;border byte=46;hook place=1;");
+            t.save("x.b.");
+            t.save("y.b.");
+            t.x.undo();
+            t.save("q.");
+            t.save("z.");
+            t.x.undo();
+            Due.is("b. alone is told by the index", t.x.has(6), 1);
+            t.save("w.z.");
+            Due.is("z. was not, ahead of this", t.x.has(6), 2);
         });
         Edge.of(30, "false, refused (4), when none can be.", () -> {
             Twins.refused("without a store", 4, Twins::bare, t -> t.x.undo() ? 1 : 0, 0);
@@ -562,6 +558,23 @@ final class EdgesOfActs {
             Twins.refused("all undone", 4, EdgesOfActs::allUndone, t -> t.x.undo() ? 1 : 0, 0);
             Twins.refused("of the store ahead", 4, EdgesOfActs::storedAgain, t -> t.x.undo() ? 1 : 0, 0);
         });
+    }
+
+    /** Three acts behind some others are undone: all is as on a twin on which they never were. */
+    private static void undone(String store, int series, int undone) {
+        Tried t = Tried.with(store);
+        Tried twin = Tried.with(store);
+        for (int i = 0; i <= series; i++) {
+            step(t, i);
+            step(twin, i);
+        }
+        for (int i = 0; i < 3; i++) {
+            step(t, undone + i);
+        }
+        for (int i = 0; i < 3; i++) {
+            Due.is("undo", t.x.undo(), true);
+        }
+        Twins.liveAlike("acts " + undone + " and so on undone behind act " + series, t, twin);
     }
 
     /** An act that can be, whatever was ahead of it. */

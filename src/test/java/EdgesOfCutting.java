@@ -160,6 +160,12 @@ final class EdgesOfCutting {
             Due.is("the last byte", t.x.octet(0, 11), 'V');
             t.save("BbV");
             Due.is("it is the second", t.x.piece(1, 0, 3), 1);
+            t.store("box 60;segs 8;least 3;border length=3;hook all;");
+            t.save("abcAddBbVAdd");
+            Due.is("nor on a store behind another", t.x.has(2), 3);
+            t.store("box 60;segs 8;least 3;border length=3;hook all;");
+            t.save("BbV");
+            t.save("BbV");
             t.save("Add");
             Due.is("nor is one with the same print in an edit", t.x.edit(2, 0, 'A'), 0);
             t = Tried.with("box 60;least 3;border length=3;hook all;");

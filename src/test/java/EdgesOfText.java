@@ -228,6 +228,14 @@ final class EdgesOfText {
                 four.save("c.b.");
                 four.x.undo();
                 Twins.liveAlike("so they are behind undo()", four, Tried.with(points));
+                String second = "box 60;least 1;segs 4;border byte=46;hook place=1 or place=3;";
+                Tried five = Tried.with(points);
+                five.save("a.b.");
+                five.save("a.b.");
+                five.store(second);
+                five.save("c.b.a.d.");
+                five.x.undo();
+                Twins.liveAlike("undo() knows the index of this store alone", five, Tried.with(second));
             }
         });
     }

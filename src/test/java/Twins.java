@@ -39,7 +39,8 @@ final class Twins {
         showsSame(what + ", undo(), save()", called, twin);
     }
 
-    private static void showsSame(String what, Tried called, Tried twin) {
+    /** Both tell the same by all questions. */
+    static void showsSame(String what, Tried called, Tried twin) {
         String shown = shown(called.x);
         String due = shown(twin.x);
         Due.is(what + ": all is as it was (" + shown + " for " + due + ")", shown.equals(due), true);
@@ -67,7 +68,7 @@ final class Twins {
     }
 
     /** What an object tells by its questions, but for the counts of what was refused. */
-    static String shown(PieceStore x) {
+    private static String shown(PieceStore x) {
         StringBuilder s = new StringBuilder();
         for (int what = 0; what <= 11; what++) {
             s.append(x.has(what)).append(' ');
