@@ -11,14 +11,13 @@ public final class RoomTest {
 
     public static void main(String[] args) {
         com.sun.management.ThreadMXBean bean = (com.sun.management.ThreadMXBean) ManagementFactory.getThreadMXBean();
-        long thread = Thread.currentThread().getId();
         dearRun(new Random(0));
         for (int seed = 1; seed <= 5; seed++) {
             Random random = new Random(seed);
             String[][] files = files(random);
-            long before = bean.getThreadAllocatedBytes(thread);
+            long before = bean.getCurrentThreadAllocatedBytes();
             PieceStore x = run(files, random);
-            long made = bean.getThreadAllocatedBytes(thread) - before;
+            long made = bean.getCurrentThreadAllocatedBytes() - before;
             // A cell has four bytes; even if all that was made were cells it must stay far below the room.
             Due.is("run " + seed + " made " + made + " bytes", made / 4 < FIELDS / 4, true);
             long[] held = held(x);
